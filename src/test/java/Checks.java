@@ -39,44 +39,4 @@ final class Checks {
         }
         return x;
     }
-
-    /** All that can be seen of an object, so that two of them, or two moments of one, can be compared. */
-    static String seen(LateChecks x) {
-        StringBuilder all = new StringBuilder();
-        for (int what = 0; what <= 10; what++) {
-            all.append(x.count(what)).append(' ');
-        }
-        all.append(x.fault()).append('\n');
-        for (int i = 0; i < 8; i++) {
-            all.append(x.item(i, 0)).append('@').append(x.item(i, 1)).append(' ');
-        }
-        for (int d = 0; d < 6; d++) {
-            seeDeal(x, d, all.append('\n'));
-        }
-        for (int c = 1; c <= x.count(0); c++) {
-            seeCommit(x, c, all.append('\n'));
-        }
-        return all.toString();
-    }
-
-    private static void seeDeal(LateChecks x, int d, StringBuilder all) {
-        for (int what = 0; what <= 11; what++) {
-            all.append(x.deal(d, what)).append(' ');
-        }
-        for (int i = 0; i < 8; i++) {
-            for (int what = 0; what <= 2; what++) {
-                all.append(x.noted(d, i, what)).append(',');
-            }
-        }
-        all.append(x.sent(d)).append(x.ballot(0, d)).append(x.ballot(1, d));
-    }
-
-    private static void seeCommit(LateChecks x, int c, StringBuilder all) {
-        for (int what = 0; what <= 5; what++) {
-            all.append(x.log(c, what)).append(' ');
-        }
-        for (int i = 0; i < 8; i++) {
-            all.append(x.logged(c, i, 0)).append(',').append(x.logged(c, i, 1)).append(' ');
-        }
-    }
 }

@@ -258,20 +258,24 @@ public final class DealsTest {
         CHECKS.due("13: nothing failed", x.count(4), 0);
     }
 
-    private static void promise14Peek() {
+    private static LateChecks fourToPeekAt() {
         LateChecks x = Checks.told("item 0 1;begin 0;begin 1;begin 2;begin 3;read 0 0;read 1 1;item 1 1;read 2 1");
         Checks.tell(x, "write 3 0 5;write 0 2 2");
+        return x;
+    }
+
+    private static void promise14Peek() {
+        LateChecks x = fourToPeekAt();
         int[][] due = {
             {3, 3, 3}, {LateChecks.STALE, LateChecks.STALE, LateChecks.STALE}, {LateChecks.VAIN, 3, 3},
             {3, 3, LateChecks.YIELDS}, {LateChecks.NOT, LateChecks.NOT, LateChecks.NOT},
         };
-        String before = Checks.seen(x);
         for (int d = 0; d < due.length; d++) {
             for (int way = 0; way <= 2; way++) {
                 CHECKS.due("14: peek(" + d + ", " + way + ")", x.peek(d, way), due[d][way]);
             }
         }
-        CHECKS.due("14: nothing changes", Checks.seen(x).equals(before) ? 1 : 0, 1);
+        CHECKS.due("14: nothing changes", Run.seen(x).equals(Run.seen(fourToPeekAt())) ? 1 : 0, 1);
     }
 
     private static void promise15Abort() {

@@ -4,11 +4,7 @@ import java.util.Random;
 public final class ModelTest {
     private static final Checks CHECKS = new Checks();
     private static final int RUNS = 9000, CALLS = 512;
-    private static final String[] NAMES = {
-        "write", "erase", "fault", "tell", "item", "put", "limit", "begin", "retry", "read", "lay", "commit", "peek",
-        "abort", "sweep", "send", "vote", "settle", "deal", "noted", "sent", "ballot", "log", "logged", "behind", "count",
-    };
-    /** How often each is called: what moves things along often, what ends them seldom. */
+    /** How often each of Calls.NAMES is called: what moves things along often, what ends them seldom. */
     private static final int[] WEIGHTS = {
         0, 1, 1, 1, 8, 3, 1, 14, 14, 60, 40, 7, 8, 1, 1, 5, 9, 5, 30, 12, 3, 5, 8, 10, 12, 10,
     };
@@ -63,10 +59,10 @@ public final class ModelTest {
             sum += w;
         }
         int dice = random.nextInt(sum);
-        for (int n = 0; n < NAMES.length; n++) {
+        for (int n = 0; n < Calls.NAMES.length; n++) {
             dice -= WEIGHTS[n];
             if (dice < 0) {
-                return NAMES[n];
+                return Calls.NAMES[n];
             }
         }
         return "count";
@@ -149,42 +145,11 @@ public final class ModelTest {
         }
         calls++;
         int want = model.call(name, a, b, c);
-        int got = answer(name, a, b, c);
+        int got = Calls.answer(x, name, a, b, c);
         if (got != want) {
             same = false;
             told.append(", call ").append(calls).append(": ").append(name).append('(').append(a).append(", ").append(b)
                     .append(", ").append(c).append(") answered ").append(got).append(", the model ").append(want).append(';');
         }
-    }
-
-    private int answer(String name, int a, int b, int c) {
-        return switch (name) {
-            case "write" -> x.write(a);
-            case "erase" -> x.erase();
-            case "fault" -> x.fault();
-            case "tell" -> x.tell();
-            case "item" -> x.item(a, b);
-            case "put" -> x.put(a, b);
-            case "limit" -> x.limit(a);
-            case "begin" -> x.begin(a);
-            case "retry" -> x.retry(a);
-            case "read" -> x.read(a, b);
-            case "lay" -> x.lay(a, b, c);
-            case "commit" -> x.commit(a, b);
-            case "peek" -> x.peek(a, b);
-            case "abort" -> x.abort(a);
-            case "sweep" -> x.sweep();
-            case "send" -> x.send(a);
-            case "vote" -> x.vote(a);
-            case "settle" -> x.settle();
-            case "deal" -> x.deal(a, b);
-            case "noted" -> x.noted(a, b, c);
-            case "sent" -> x.sent(a);
-            case "ballot" -> x.ballot(a, b);
-            case "log" -> x.log(a, b);
-            case "logged" -> x.logged(a, b, c);
-            case "behind" -> x.behind(a, b);
-            default -> x.count(a);
-        };
     }
 }
