@@ -5,7 +5,9 @@ import java.lang.reflect.Method;
 import java.lang.reflect.Modifier;
 import java.nio.file.Files;
 import java.nio.file.Path;
+import java.util.ArrayList;
 import java.util.Arrays;
+import java.util.List;
 import java.util.Set;
 import java.util.TreeSet;
 import java.util.regex.Matcher;
@@ -27,12 +29,22 @@ public final class LanguageTest {
         "protected", "var", "yield", "System", "Thread", "Object", "Exception", "Random", "double", "float",
     };
 
+    /** What rule 4 lists, as far as a class without lists and texts that are built can need it. */
+    private static final Set<String> LIBRARY = Set.of(
+            "java/lang/Object.<init>", "java/lang/String.length", "java/lang/String.charAt", "java/lang/String.isEmpty",
+            "java/lang/String.equals", "java/lang/Integer.bitCount", "java/lang/Integer.compare", "java/lang/Math.max",
+            "java/lang/Math.min", "java/lang/Math.abs", "java/lang/Math.floorDiv", "java/lang/Math.floorMod",
+            "java/util/Arrays.fill");
+
     public static void main(String[] args) throws IOException, IllegalAccessException {
+        String source = Files.readString(Path.of(System.getProperty("lateChecks.source")));
         theClass();
         theMethods();
         theConstants();
         theClassesInside();
-        theSource(Files.readString(Path.of(System.getProperty("lateChecks.source"))));
+        theLibrary();
+        theSource(source);
+        theFaceAsWritten(source, Files.readString(Path.of(System.getProperty("lateChecks.document"))));
         CHECKS.end("LanguageTest");
     }
 
@@ -98,6 +110,34 @@ public final class LanguageTest {
                 holds("rule 6: " + method, !Set.of("equals", "hashCode", "toString").contains(method.getName()));
             }
         }
+    }
+
+    private static void theLibrary() throws IOException {
+        List<Class<?>> classes = new ArrayList<>(List.of(LateChecks.class.getDeclaredClasses()));
+        classes.add(LateChecks.class);
+        for (Class<?> c : classes) {
+            ClassFile file = new ClassFile(c);
+            holds("rules 2, 10: " + c + " has nothing that is made at run time", !file.isDynamic());
+            holds("rule 4: " + c + " names something", !file.named().isEmpty());
+            for (String name : file.named()) {
+                boolean own = name.startsWith("LateChecks.") || name.startsWith("LateChecks$");
+                holds("rule 4: " + c + " uses " + name, own || LIBRARY.contains(name));
+            }
+        }
+    }
+
+    /** Reflection tells neither the names nor the order of parameters: each line of the face stands in the source. */
+    private static void theFaceAsWritten(String source, String document) {
+        Matcher face = Pattern.compile("(?s)## The public face\\s+```java\\n(.*?)```").matcher(document);
+        holds("the document has a face", face.find());
+        int lines = 0;
+        for (String line : face.group(1).split("\n")) {
+            String due = line.endsWith(");") ? line.substring(0, line.length() - 1) + " {" : line;
+            lines += line.equals("}") ? 0 : 1;
+            holds("rule 1: the source has the line \"" + due + "\"", source.lines().anyMatch(due::equals));
+        }
+        long open = source.lines().filter(l -> l.strip().startsWith("public ")).count();
+        CHECKS.due("rule 1: lines of the source that begin with public", open, lines);
     }
 
     private static void theSource(String source) {
