@@ -61,8 +61,6 @@ public final class ReadmeTest {
         CHECKS.due("README: lines with // in examples", lines, BLOCK.matcher(page).results()
                 .flatMap(b -> b.group(1).lines()).filter(l -> l.contains("//")).count());
         runExamples(source.append("}\n").toString(), blocks);
-        SHOWN.add("write");
-        CHECKS.due("README: write() is shown", page.contains("x.write(letter);") ? 1 : 0, 1);
         for (String name : Calls.NAMES) {
             CHECKS.due("README: " + name + "() is shown", SHOWN.contains(name) ? 1 : 0, 1);
         }
